@@ -1,0 +1,159 @@
+/** Promises 30 and 31: mark, count. */
+public final class MarkTest {
+    private static final Due due = new Due();
+
+    public static void main(String[] args) {
+        wrongMarks();
+        allIsHeld();
+        fourMarks();
+        counts();
+        due.end();
+    }
+
+    private static void wrongMarks() {
+        MoveInn x = new MoveInn();
+        due.is("mark(-1, false)", x.mark(-1, false), false);
+        due.is("mark(4, false)", x.mark(4, false), false);
+        due.is("mark(4, true)", x.mark(4, true), false);
+        for (int mark = 0; mark < 4; mark++) {
+            due.is("mark(" + mark + ", true), nothing is on it", x.mark(mark, true), false);
+        }
+        due.is("mark(3, false)", x.mark(3, false), true);
+        due.is("mark(3, true)", x.mark(3, true), true);
+        due.is("mark(3, true), again", x.mark(3, true), true);
+        due.is("mark(2, true)", x.mark(2, true), false);
+        due.is("inn() of nothing", x.inn(), 0);
+        due.is("mark(3, true): no mark is in a new inn", x.mark(3, true), false);
+    }
+
+    private static long[] seen(MoveInn x) {
+        long[] seen = new long[400];
+        int n = 0;
+        for (int what = 0; what < 10; what++) {
+            seen[n++] = x.count(what);
+        }
+        for (int what = 0; what < 4; what++) {
+            seen[n++] = x.sum(what);
+        }
+        seen[n++] = x.over();
+        for (int guest = 0; guest < 4; guest++) {
+            for (int minute = 0; minute < 60; minute += 3) {
+                seen[n++] = x.where(guest, minute);
+            }
+            for (int what = 3; what < 6; what++) {
+                seen[n++] = x.guest(guest, what);
+            }
+            seen[n++] = x.sure(guest);
+            seen[n++] = x.order(guest, 0);
+            seen[n++] = x.order(guest, 2);
+        }
+        for (int rule = -1; rule < 2; rule++) {
+            for (int what = 0; what < 3; what++) {
+                seen[n++] = x.tried(rule, what);
+            }
+        }
+        for (int room = 0; room < 4; room++) {
+            seen[n++] = x.could(room, 30);
+            seen[n++] = x.room(room, 2);
+        }
+        for (int what = 0; what < 10; what++) {
+            seen[n++] = x.porters(what);
+        }
+        seen[n++] = x.liars();
+        seen[n++] = x.ways();
+        seen[n++] = x.told();
+        return seen;
+    }
+
+    private static void change(MoveInn x, int by) {
+        x.clear();
+        for (int i = 0; i < 5; i++) {
+            x.sight((i + by) % 4, (i * by) % 4, 20 + i * by);
+            x.page((i + by) % 4, 1 + (i * by) % 15);
+            x.job(i * by % 10, 1 + i, by + i);
+        }
+        x.use(by % 3 - 1);
+        x.come(by % 4, 10 * by);
+        x.come((by + 1) % 4, 10 * by);
+        x.leave(by % 4, 10 * by);
+        x.book(-1);
+        for (int guest = 0; guest < by; guest++) {
+            x.book(guest);
+        }
+    }
+
+    private static void same(String text, long[] got, long[] want) {
+        for (int i = 0; i < want.length; i++) {
+            due.is(text + ", the answer " + i, got[i], want[i]);
+        }
+    }
+
+    private static void allIsHeld() {
+        MoveInn x = due.inn("room 0 0;room 1 0;room 2 1;room 0 0;"
+                + "guest a trunk 0;guest b trunk 10 bath;guest c trunk 20;guest d trunk 30 bath;rule 1;rule here+trunk;");
+        change(x, 1);
+        long[] first = seen(x);
+        x.mark(1, false);
+        change(x, 2);
+        change(x, 3);
+        long[] second = seen(x);
+        Due.feed(x, "room");
+        due.is("mark(1, true)", x.mark(1, true), true);
+        same("back to 1", seen(x), first);
+        due.is("the tape stays", x.count(10), 4);
+        due.is("the minutes go on from the mark", x.come(1, 9), 2);
+        change(x, 2);
+        change(x, 3);
+        same("the same again", seen(x), second);
+        due.is("mark(1, true)", x.mark(1, true), true);
+        same("back to 1 again", seen(x), first);
+        due.is("a fault keeps marks", x.inn(), 1 + 16 * 4);
+        due.is("mark(1, true)", x.mark(1, true), true);
+    }
+
+    private static void fourMarks() {
+        MoveInn x = due.inn("room 0 0;room 0 0;room 0 0;room 0 0;"
+                + "guest a trunk 0;guest b trunk 0;guest c trunk 0;guest d trunk 0;");
+        for (int mark = 0; mark < 4; mark++) {
+            x.come(mark, mark);
+            x.mark(mark, false);
+        }
+        int[] turn = {2, 0, 3, 1, 1};
+        for (int mark : turn) {
+            x.mark(mark, true);
+            due.is("count(3) at " + mark, x.count(3), mark + 1);
+        }
+        x.mark(3, false);
+        x.mark(0, true);
+        due.is("count(3)", x.count(3), 1);
+        x.mark(3, true);
+        due.is("count(3): laid anew", x.count(3), 2);
+    }
+
+    private static void counts() {
+        MoveInn x = due.inn("room 0 0;room 0 0;room 0 0;room 0 0;guest a trunk 0;guest b trunk 0;guest c trunk 0;"
+                + "guest d trunk 0;guest e trunk 0;rule 1;rule 2;rule 3;");
+        x.come(0, 0);
+        x.come(1, 0);
+        x.come(2, 0);
+        x.leave(1, 0);
+        x.use(2);
+        for (int i = 0; i < 6; i++) {
+            x.sight(0, 0, 0);
+            x.job(0, 1, 0);
+        }
+        x.job(0, 1, 0);
+        x.page(0, 1);
+        x.page(1, 1);
+        x.page(2, 1);
+        x.book(3);
+        Due.feed(x, "rule 1;");
+        int[] want = {4, 5, 3, 2, 2, 6, 3, 7, 1, 4, 7};
+        for (int what = 0; what < want.length; what++) {
+            due.is("count(" + what + ")", x.count(what), want[what]);
+        }
+        due.is("count(11)", x.count(11), -1);
+        due.is("count(-1)", x.count(-1), -1);
+        due.is("count(MIN)", x.count(Integer.MIN_VALUE), -1);
+    }
+}
