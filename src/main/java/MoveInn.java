@@ -1109,7 +1109,7 @@ public final class MoveInn {
         }
     }
 
-    /** Every going from a place to another one, in the order of time; one begins when the one before is over, or later. */
+    /** Every going from a place to another one, by time: one begins when the one before is over, or later. */
     private static final class Diary {
         private static final int GOINGS_MOST = CAME_AND_LEFT_MOST * ROOMS_MOST;
 

@@ -1,14 +1,16 @@
 import java.util.NoSuchElementException;
 
-/** Every call with numbers from all edges, in states from a new object to a full one: nothing is thrown but by gives. */
+/** Every call with numbers from all edges, on objects from a new to a full one: only gives throws, and by rule. */
 public final class EdgesTest {
-    private static final int[] EDGES = {Integer.MIN_VALUE, -1000000, -5, -4, -3, -2, -1, 0, 1, 2, 3, 4, 6, 7, 8, 9, 10, 11,
-        12, 20, 31, 32, 33, 98, 99, 100, 1023, 1024, 99999, 100000, 999999, 1000000, Integer.MAX_VALUE};
+    private static final int[] EDGES = {Integer.MIN_VALUE, -1000000, -5, -4, -3, -2, -1, 0, 1, 2, 3, 4, 6, 7, 8, 9,
+        10, 11, 12, 20, 31, 32, 33, 98, 99, 100, 1023, 1024, 99999, 100000, 999999, 1000000, Integer.MAX_VALUE};
+    private static final int[] THIRD = {Integer.MIN_VALUE, -1, 0, 1, 9, 10, 99, 100, 999999, 1000000, Integer.MAX_VALUE};
     private static final Due due = new Due();
 
     public static void main(String[] args) {
         String full = fullInn();
-        for (String text : new String[] {"", "room 0 0;", "guest a trunk 1;", "rule 1;", "room 9 1;guest a trunk 99;", full}) {
+        String[] texts = {"", "room 0 0;", "guest a trunk 1;", "rule 1;", "room 9 1;guest a trunk 99;", full};
+        for (String text : texts) {
             for (int kind = 0; kind < 31; kind++) {
                 tryAll(text, kind, false);
                 tryAll(text, kind, true);
@@ -23,7 +25,8 @@ public final class EdgesTest {
             text.append("room ").append(i).append(' ').append(i % 2).append(';');
             text.append("guest ").append((char) ('a' + i)).append(" trunk ").append(i * 11).append(" bath ill;");
         }
-        String deep = "1 and 1<1+1*(1 or 1=1-1*(here and gap<moved+floors*(stove or trunk=1+1*(not ill and bath=1+1*2))))";
+        String deep = "1 and 1<1+1*(1 or 1=1-1*(here and gap<moved+floors*"
+                + "(stove or trunk=1+1*(not ill and bath=1+1*2))))";
         for (int i = 0; i < 4; i++) {
             text.append("rule ").append(deep).append(';');
         }
@@ -55,7 +58,7 @@ public final class EdgesTest {
         int calls = 0;
         for (int a : EDGES) {
             for (int b : EDGES) {
-                for (int c : new int[] {Integer.MIN_VALUE, -1, 0, 1, 9, 10, 99, 100, 999999, 1000000, Integer.MAX_VALUE}) {
+                for (int c : THIRD) {
                     if (calls == 400) {
                         x = made(text, full);
                         calls = 0;

@@ -10,7 +10,8 @@ public final class HeapTest {
     private static int kept;
 
     public static void main(String[] args) {
-        String inn = "room 0 0;room 1 0;room 2 1;guest a trunk 1 bath;guest b trunk 20;guest c trunk 3;rule 1;rule here*trunk;";
+        String inn = "room 0 0;room 1 0;room 2 1;guest a trunk 1 bath;guest b trunk 20;guest c trunk 3;"
+                + "rule 1;rule here*trunk;";
         // Once ahead, so that classes are loaded before anything is measured.
         use(due.inn(inn), inn);
         new MoveInn().mark(0, false);

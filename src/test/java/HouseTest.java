@@ -296,8 +296,8 @@ public final class HouseTest {
 
     private static void longStairs() {
         MoveInn x = due.inn("room 9 0;room 0 0;room 9 0;room 0 0;room 9 0;room 0 0;room 9 0;room 0 0;room 9 0;room 0 0;"
-                + "guest a trunk 99;guest b trunk 99;guest c trunk 99;guest d trunk 99;guest e trunk 99;guest f trunk 99;"
-                + "guest g trunk 99;guest h trunk 99;guest i trunk 99;guest j trunk 99;rule 1;");
+                + "guest a trunk 99;guest b trunk 99;guest c trunk 99;guest d trunk 99;guest e trunk 99;"
+                + "guest f trunk 99;guest g trunk 99;guest h trunk 99;guest i trunk 99;guest j trunk 99;rule 1;");
         for (int guest = 0; guest < 10; guest++) {
             x.come(guest, 99999);
         }

@@ -10,10 +10,11 @@ public final class LanguageTest {
 
     public static void main(String[] args) throws Exception {
         String text = Files.readString(Path.of("src/main/java/MoveInn.java"));
-        String code = text.replaceAll("(?s)/\\*.*?\\*/", "").replaceAll("//[^\n]*", "").replaceAll("\"[^\"\n]*\"", "\"\"");
-        for (String word : List.of("->", "::", "try", "catch", "finally", "synchronized", "assert", "instanceof", "volatile",
-                "transient", "native", "static {", "protected", "double", "float", "Exact", "toString", "hashCode", "System.out",
-                "Object", "var ", "package ", "implements", "extends", "new String", "StringBuilder")) {
+        String code = text.replaceAll("(?s)/\\*.*?\\*/", "").replaceAll("//[^\n]*", "")
+                .replaceAll("\"[^\"\n]*\"", "\"\"");
+        for (String word : List.of("->", "::", "try", "catch", "finally", "synchronized", "assert", "instanceof",
+                "volatile", "transient", "native", "static {", "protected", "double", "float", "Exact", "toString", "hashCode",
+                "System.out", "Object", "var ", "package ", "implements", "extends", "new String", "StringBuilder")) {
             due.is("no " + word, Pattern.compile("(?<![A-Za-z])" + Pattern.quote(word)).matcher(code).find(), false);
         }
         imports(code);

@@ -740,7 +740,8 @@ final class PlainInn {
     int order(int guest, int what) {
         Replay real = real();
         if (!isGuest(guest) || booked.isEmpty() || booked.size() > rooms.size() - real.roomOf.size()
-                || !real.roomOf.containsKey(guest) && !booked.contains(guest) || what < 0 || what >= 2 + booked.size()) {
+                || !real.roomOf.containsKey(guest) && !booked.contains(guest)
+                || what < 0 || what >= 2 + booked.size()) {
             return -1;
         }
         List<Integer> best = null;

@@ -172,7 +172,8 @@ public final class RandomRunsTest {
         int guest = guest();
         int room = room();
         int one = asked();
-        int other = random.nextInt(8) == 0 || one < 0 ? asked() : (int) Math.min(Integer.MAX_VALUE, (long) one + small(30));
+        long later = Math.min(Integer.MAX_VALUE, (long) one + random.nextInt(30));
+        int other = random.nextInt(8) == 0 ? asked() : (int) later;
         switch (random.nextInt(4)) {
             case 0 -> same("where(" + guest + ", " + one + ")", real.where(guest, one), plain.where(guest, one));
             case 1 -> same("who(" + room + ", " + one + ")", real.who(room, one), plain.who(room, one));

@@ -10,7 +10,8 @@ public final class RegisterTest {
     }
 
     private static void pages() {
-        MoveInn x = due.inn("room 0 0;room 0 0;room 0 0;guest a trunk 0;guest b trunk 0;guest c trunk 0;guest d trunk 0;");
+        MoveInn x = due.inn("room 0 0;room 0 0;room 0 0;guest a trunk 0;guest b trunk 0;guest c trunk 0;"
+                + "guest d trunk 0;");
         due.is("ways()", x.ways(), 1);
         due.is("page(0, 8)", x.page(0, 8), -1);
         due.is("page(0, -1)", x.page(0, -1), -1);
@@ -36,7 +37,8 @@ public final class RegisterTest {
     }
 
     private static void sures() {
-        MoveInn x = due.inn("room 0 0;room 0 0;room 0 0;guest a trunk 0;guest b trunk 0;guest c trunk 0;guest d trunk 0;");
+        MoveInn x = due.inn("room 0 0;room 0 0;room 0 0;guest a trunk 0;guest b trunk 0;guest c trunk 0;"
+                + "guest d trunk 0;");
         x.page(0, 4);
         due.is("sure(0)", x.sure(0), 2);
         due.is("sure(1): no page", x.sure(1), -1);

@@ -13,6 +13,7 @@ public final class TapeTest {
         oneTooMany();
         aFaultLeavesAll();
         anInnBeginsAnew();
+        manyLongInns();
         due.end();
     }
 
@@ -71,6 +72,7 @@ public final class TapeTest {
         due.fault("guest here trunk 1;guest gap trunk 1;guest floors trunk 1;guest stove trunk 1;guest moved trunk 1;",
                 0, 0);
         due.fault("guest abcdefgh trunk 1;guest abcdefg trunk 1;guest bbcdefgh trunk 1;", 0, 0);
+        due.fault("guest ab trunk 1;guest ba trunk 1;guest aab trunk 1;guest aba trunk 1;guest z trunk 1;", 0, 0);
         due.fault("rule 1;room 0 0;guest x trunk 1;room 0 0;rule 1;", 0, 0);
     }
 
@@ -213,6 +215,18 @@ public final class TapeTest {
         due.is("behind a fault: where(0, 7)", x.where(0, 7), 0);
         due.is("behind a fault: gives(0, 0, 1)", Due.gives(x, 0, 0, 1), 1);
         due.is("behind a fault: mark(2, true)", x.mark(2, true), true);
+    }
+
+    private static void manyLongInns() {
+        MoveInn x = new MoveInn();
+        for (int i = 0; i < 11; i++) {
+            String rule = Due.repeat("1+", 460) + i;
+            String inn = "room 0 0;room 0 0;guest a trunk 0;rule " + rule + ";rule 7;";
+            due.is("inn() of a long rule", Due.read(x, inn), 0);
+            x.come(0, 0);
+            due.is("gives(0, 0, 1) of a long rule", Due.gives(x, 0, 0, 1), 460 + i);
+            due.is("gives(1, 0, 1) behind a long rule", Due.gives(x, 1, 0, 1), 7);
+        }
     }
 
     private static void anInnBeginsAnew() {

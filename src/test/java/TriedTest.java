@@ -53,8 +53,8 @@ public final class TriedTest {
     }
 
     private static void bestOfEqualOnes() {
-        MoveInn x = due.inn("room 0 0;room 0 0;room 0 0;guest a trunk 0;guest b trunk 0 bath;guest c trunk 0;guest d trunk 0;"
-                + "rule bath;rule not bath*here;rule not bath*here;");
+        MoveInn x = due.inn("room 0 0;room 0 0;room 0 0;guest a trunk 0;guest b trunk 0 bath;guest c trunk 0;"
+                + "guest d trunk 0;rule bath;rule not bath*here;rule not bath*here;");
         x.come(0, 0);
         x.come(1, 0);
         x.come(2, 0);
