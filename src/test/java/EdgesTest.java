@@ -4,7 +4,8 @@ import java.util.NoSuchElementException;
 public final class EdgesTest {
     private static final int[] EDGES = {Integer.MIN_VALUE, -1000000, -5, -4, -3, -2, -1, 0, 1, 2, 3, 4, 6, 7, 8, 9,
         10, 11, 12, 20, 31, 32, 33, 98, 99, 100, 1023, 1024, 99999, 100000, 999999, 1000000, Integer.MAX_VALUE};
-    private static final int[] THIRD = {Integer.MIN_VALUE, -1, 0, 1, 9, 10, 99, 100, 999999, 1000000, Integer.MAX_VALUE};
+    private static final int[] THIRD = {Integer.MIN_VALUE, -1, 0, 1, 9, 10, 99, 100, 999999, 1000000,
+        Integer.MAX_VALUE};
     private static final Due due = new Due();
 
     public static void main(String[] args) {

@@ -13,8 +13,9 @@ public final class LanguageTest {
         String code = text.replaceAll("(?s)/\\*.*?\\*/", "").replaceAll("//[^\n]*", "")
                 .replaceAll("\"[^\"\n]*\"", "\"\"");
         for (String word : List.of("->", "::", "try", "catch", "finally", "synchronized", "assert", "instanceof",
-                "volatile", "transient", "native", "static {", "protected", "double", "float", "Exact", "toString", "hashCode",
-                "System.out", "Object", "var ", "package ", "implements", "extends", "new String", "StringBuilder")) {
+                "volatile", "transient", "native", "static {", "protected", "double", "float", "Exact",
+                "toString", "hashCode", "System.out", "Object", "var ", "package ", "implements", "extends",
+                "new String", "StringBuilder")) {
             due.is("no " + word, Pattern.compile("(?<![A-Za-z])" + Pattern.quote(word)).matcher(code).find(), false);
         }
         imports(code);
