@@ -6,6 +6,8 @@ public final class EdgesTest {
         10, 11, 12, 20, 31, 32, 33, 98, 99, 100, 1023, 1024, 99999, 100000, 999999, 1000000, Integer.MAX_VALUE};
     private static final int[] THIRD = {Integer.MIN_VALUE, -1, 0, 1, 9, 10, 99, 100, 999999, 1000000,
         Integer.MAX_VALUE};
+    /** A full one is made by some 300 calls, and nothing is promised behind the 512th. */
+    private static final int CALLS_OF_ONE = 200;
     private static final Due due = new Due();
 
     public static void main(String[] args) {
@@ -44,7 +46,7 @@ public final class EdgesTest {
                 x.page(i % 10, 1023);
                 x.job(99, 99, 99);
             }
-            for (int i = 0; i < 80; i++) {
+            for (int i = 0; i < 40; i++) {
                 x.leave(x.room(0, 2), 99999);
                 x.book(i % 10);
             }
@@ -60,7 +62,7 @@ public final class EdgesTest {
         for (int a : EDGES) {
             for (int b : EDGES) {
                 for (int c : THIRD) {
-                    if (calls == 400) {
+                    if (calls == CALLS_OF_ONE) {
                         x = made(text, full);
                         calls = 0;
                     }

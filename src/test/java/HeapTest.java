@@ -37,7 +37,7 @@ public final class HeapTest {
     }
 
     private static void use(MoveInn x, String inn) {
-        for (int i = 0; i < 30; i++) {
+        for (int i = 0; i < 18; i++) {
             int guest = i % 3;
             kept += x.come(guest, i) + x.where(guest, i) + x.who(guest, i) + x.letter(guest, i, i + 1);
             kept += x.trunk(guest, 0, i) + x.sight(guest, guest, i) + x.could(guest, i) + x.liars();

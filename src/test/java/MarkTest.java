@@ -4,7 +4,6 @@ public final class MarkTest {
 
     public static void main(String[] args) {
         wrongMarks();
-        allIsHeld();
         fourMarks();
         twoWays();
         whoEverCame();
@@ -28,92 +27,6 @@ public final class MarkTest {
         for (int mark = 0; mark < 4; mark++) {
             due.is("mark(" + mark + ", true): no mark is in a new inn", x.mark(mark, true), false);
         }
-    }
-
-    private static long[] seen(MoveInn x) {
-        long[] seen = new long[400];
-        int n = 0;
-        for (int what = 0; what < 10; what++) {
-            seen[n++] = x.count(what);
-        }
-        for (int what = 0; what < 4; what++) {
-            seen[n++] = x.sum(what);
-        }
-        seen[n++] = x.over();
-        for (int guest = 0; guest < 4; guest++) {
-            for (int minute = 0; minute < 60; minute += 3) {
-                seen[n++] = x.where(guest, minute);
-            }
-            for (int what = 3; what < 6; what++) {
-                seen[n++] = x.guest(guest, what);
-            }
-            seen[n++] = x.sure(guest);
-            seen[n++] = x.order(guest, 0);
-            seen[n++] = x.order(guest, 2);
-        }
-        for (int rule = -1; rule < 2; rule++) {
-            for (int what = 0; what < 3; what++) {
-                seen[n++] = x.tried(rule, what);
-            }
-        }
-        for (int room = 0; room < 4; room++) {
-            seen[n++] = x.could(room, 30);
-            seen[n++] = x.room(room, 2);
-        }
-        for (int what = 0; what < 10; what++) {
-            seen[n++] = x.porters(what);
-        }
-        seen[n++] = x.liars();
-        seen[n++] = x.ways();
-        seen[n++] = x.told();
-        return seen;
-    }
-
-    private static void change(MoveInn x, int by) {
-        x.clear();
-        for (int i = 0; i < 5; i++) {
-            x.sight((i + by) % 4, (i * by) % 4, 20 + i * by);
-            x.page((i + by) % 4, 1 + (i * by) % 15);
-            x.job(i * by % 10, 1 + i, by + i);
-        }
-        x.use(by % 3 - 1);
-        x.come(by % 4, 10 * by);
-        x.come((by + 1) % 4, 10 * by);
-        x.leave(by % 4, 10 * by);
-        x.book(-1);
-        for (int guest = 0; guest < by; guest++) {
-            x.book(guest);
-        }
-    }
-
-    private static void same(String text, long[] got, long[] want) {
-        for (int i = 0; i < want.length; i++) {
-            due.is(text + ", the answer " + i, got[i], want[i]);
-        }
-    }
-
-    private static void allIsHeld() {
-        MoveInn x = due.inn("room 0 0;room 1 0;room 2 1;room 0 0;"
-                + "guest a trunk 0;guest b trunk 10 bath;guest c trunk 20;guest d trunk 30 bath;"
-                + "rule 1;rule here+trunk;");
-        change(x, 1);
-        long[] first = seen(x);
-        x.mark(1, false);
-        change(x, 2);
-        change(x, 3);
-        long[] second = seen(x);
-        Due.feed(x, "room");
-        due.is("mark(1, true)", x.mark(1, true), true);
-        same("back to 1", seen(x), first);
-        due.is("the tape stays", x.count(10), 4);
-        due.is("the minutes go on from the mark", x.come(1, 9), 2);
-        change(x, 2);
-        change(x, 3);
-        same("the same again", seen(x), second);
-        due.is("mark(1, true)", x.mark(1, true), true);
-        same("back to 1 again", seen(x), first);
-        due.is("a fault keeps marks", x.inn(), 1 + 16 * 4);
-        due.is("mark(1, true)", x.mark(1, true), true);
     }
 
     private static void fourMarks() {
