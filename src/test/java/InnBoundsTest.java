@@ -19,6 +19,7 @@ public final class InnBoundsTest {
         theEndIsAToken();
         oneTokenWrong();
         theFirstThatIsWrong();
+        oneComparison();
         withinFive();
         whatCannotStandWithinFive();
         due.end();
@@ -242,6 +243,19 @@ public final class InnBoundsTest {
         due.fault("rule # not not not not not 1;", 1, 5);
         due.fault(rooms(10) + "room # 10;", 5, 90);
         due.fault(rooms(9) + "room 10 0;room 0 0;", 4, 86);
+    }
+
+    /** "TEST: SUM, or SUM < SUM, or SUM = SUM": a second comparison needs another TEST. */
+    private static void oneComparison() {
+        for (String first : new String[] {"<", "="}) {
+            for (String second : new String[] {"<", "="}) {
+                due.fault("rule 1" + first + "2" + second + "3;", 1, 8);
+                due.fault("rule 1+1" + first + "2*2" + second + "3;", 1, 12);
+                due.fault("rule (1" + first + "2)" + second + "3;", 0, 0);
+                due.fault("rule 1" + first + "(2" + second + "3);", 0, 0);
+                due.fault("rule 1" + first + "2 and 3" + second + "4 or 5" + first + "6;", 0, 0);
+            }
+        }
     }
 
     /** "no PART lies within 5 of not and ( )"; "5 .. not, or a PART, within 5 others". */
